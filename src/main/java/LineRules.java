@@ -450,10 +450,10 @@ public final class LineRules {
         }
 
         void become(Row other) {
-            if (other != this) {
-                drop();
-                addAll(other);
-            }
+            // the other row may be this one: no sign goes before all are copied
+            int most = Math.min(other.length, signs.length);
+            System.arraycopy(other.signs, 0, signs, 0, most);
+            length = most;
         }
 
         void becomeNumber(int number) {

@@ -37,6 +37,10 @@ public final class Promise02FeedTest {
         Check.due("unchanged", x.count(0), 119);
         Check.due("one more", x.feed(0, 0, 0, 0, 0x62000000), 120);
         Check.refused("one too many", Check.STATE, () -> x.feed(0x63, 0, 0, 0, 0));
+        for (int shift = 0; shift < 32; shift++) {
+            int word = 1 << shift;
+            Check.refused("a sign of one bit", Check.STATE, () -> x.feed(0, 0, word, 0, 0));
+        }
         Check.due("none more", x.feed(0, 0, 0, 0, 0), 120);
         x.line();
         Check.due("the pad", Check.row(x, 0), "a".repeat(119) + "b");

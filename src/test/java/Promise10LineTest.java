@@ -11,6 +11,7 @@ public final class Promise10LineTest {
         replacingAll();
         replacedLinesAreCutAnew();
         countersAndNumbers();
+        actionsDoTheirOwnAlone();
         noMoreRules();
         patternsSeeTheLineAsItIs();
         laterChangesCount();
@@ -182,6 +183,42 @@ public final class Promise10LineTest {
         String rest = "-40\n-2147483648\n0\n2147483647\n";
         Check.due("printed", Check.printed(x), "1\n" + rest + "2\n" + rest);
         Check.due("counter 2", x.counter(2), -40);
+    }
+
+    /** What a line "a -12 b" leaves behind an action, counter 2 being 10, expression 2 "[ab]" and text 2 "t". */
+    private static void alone(int action, int a, int b, String want) {
+        LineRules x = Check.withAction(11, 2, 10);
+        x.line();
+        x.forget();
+        Check.expression(x, 2, "[ab]");
+        Check.text(x, 2, "t");
+        x.rule(0, 0, 0);
+        x.action(0, action, a, b);
+        Check.line(x, "a -12 b");
+        StringBuilder got = new StringBuilder(Check.row(x, 0)).append('|').append(Check.fields(x));
+        for (int k = 0; k < 8; k++) {
+            got.append(k == 0 ? '|' : ' ').append(x.counter(k));
+        }
+        got.append('|').append(Check.table(x)).append('|').append(Check.printed(x));
+        Check.due("all behind action " + action, got.toString(), want);
+    }
+
+    private static void actionsDoTheirOwnAlone() {
+        String line = "a -12 b|<a><-12><b>";
+        String counters = "|0 0 10 0 0 0 0 0|";
+        alone(0, 2, 2, line + counters + "|a -12 b\n");
+        alone(1, 2, 2, line + counters + "|-12\n");
+        alone(2, 2, 2, line + "|0 0 -2 0 0 0 0 0||");
+        alone(3, 2, 2, line + counters + "-12=2 |");
+        alone(4, 2, 1, "a a b|<a><a><b>" + counters + "|");
+        alone(5, 2, 2, "a 10 b|<a><10><b>" + counters + "|");
+        alone(6, 2, 2, "t -12 b|<t><-12><b>" + counters + "|");
+        alone(7, 2, 2, "t -12 t|<t><-12><t>" + counters + "|");
+        alone(8, 2, 2, line + counters + "|a\n");
+        alone(9, 2, 2, line + counters + "|10\n");
+        alone(10, 2, 2, line + counters + "|");
+        alone(11, 2, 3, line + "|0 0 3 0 0 0 0 0||");
+        alone(12, 2, 3, line + "|0 0 2 0 0 0 0 0||");
     }
 
     private static void noMoreRules() {

@@ -113,6 +113,10 @@ public final class Promise11FindTest {
         found("[^a-c]+", "adeb", 0, 1, 3);
         found("[^a]", "aaa", 0, -1, -1);
         found("[^a]", "a\n", 0, 1, 2);
+        found("[^a]", "a\u0001", 0, 1, 2);
+        found("[^a]", "a\u00ff", 0, 1, 2);
+        found(".", "\u0001", 0, 0, 1);
+        found(".", "\u00ff", 0, 0, 1);
         found("[a^]+", "b^a", 0, 1, 3);
         found("[^^]", "^a", 0, 1, 2);
         found("[[.*$]+", "a$*.[", 0, 1, 5);
