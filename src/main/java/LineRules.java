@@ -513,8 +513,8 @@ public final class LineRules {
         /** By kind of place: the atoms that a match may begin with there, and those that it may end behind there. */
         final long[] firsts = new long[PLACES];
         final long[] lasts = new long[PLACES];
-        /** By kind of place: whether nothing matches there. A new expression is the empty text. */
-        final boolean[] matchesNothing = {true, true, true, true};
+        /** By kind of place: whether the empty part matches there. A new expression is the empty text. */
+        final boolean[] matchesEmpty = {true, true, true, true};
         int atoms;
 
         void drop() {
@@ -535,7 +535,7 @@ public final class LineRules {
 
         /** Where the longest match that begins at a place ends. */
         int longestFrom(Row text, int begin) {
-            int longest = matchesNothing[kindOf(begin, text.length)] ? begin : NONE;
+            int longest = matchesEmpty[kindOf(begin, text.length)] ? begin : NONE;
             long states = firsts[kindOf(begin, text.length)];
             for (int i = begin; i < text.length && states != 0; i++) {
                 long taking = states & takers[text.signs[i]];
@@ -604,7 +604,7 @@ public final class LineRules {
             if (fault == NONE) {
                 for (int kind = 0; kind < Expression.PLACES; kind++) {
                     weighAll(kind);
-                    made.matchesNothing[kind] = empties[whole];
+                    made.matchesEmpty[kind] = empties[whole];
                     made.firsts[kind] = firsts[whole];
                     made.lasts[kind] = lasts[whole];
                 }
@@ -805,7 +805,7 @@ public final class LineRules {
             }
         }
 
-        /** Which atoms a node may begin with and end behind at a kind of place, and whether nothing matches it. */
+        /** Which atoms a node may begin with and end behind at a kind of place, and whether the empty part matches it. */
         private void weigh(int n, int kind) {
             int left = lefts[n];
             int right = rights[n];

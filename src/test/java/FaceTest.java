@@ -21,7 +21,8 @@ public final class FaceTest {
         "public int LineRules.key(int,int) throws java.util.NoSuchElementException",
         "public int LineRules.line()",
         "public int LineRules.printed(int) throws java.util.NoSuchElementException",
-        "public int LineRules.rule(int,int,int) throws java.util.NoSuchElementException,java.lang.IllegalStateException",
+        "public int LineRules.rule(int,int,int)"
+            + " throws java.util.NoSuchElementException,java.lang.IllegalStateException",
         "public int LineRules.separator(int) throws java.lang.IllegalArgumentException",
         "public int LineRules.sign(int,int) throws java.util.NoSuchElementException",
         "public int LineRules.text(int) throws java.util.NoSuchElementException",

@@ -125,6 +125,7 @@ public final class Promise04ExpressionTest {
             "[^^]", "[a^]", "[[]", "[.*+?$()|]", "[a-a]", "[A-^]", "[^a-z0-9_]", "[(]", "-", "a-b", "\u0001", "\u00ff",
             "[\u0001-\u00ff]", "(".repeat(10) + ")".repeat(10), "(".repeat(10) + "[(]\\(" + ")".repeat(10),
             "((((((((((a)b)()c)d)e)f)g)h)i)j)()", "}{", "\n",
+            "|".repeat(60), "a" + "?".repeat(59), "^$".repeat(30), "()".repeat(30), "[" + "a".repeat(58) + "]",
         };
         for (String text : texts) {
             Check.expression(new LineRules(), 0, text);

@@ -185,13 +185,13 @@ public final class Promise10LineTest {
         Check.due("counter 2", x.counter(2), -40);
     }
 
-    /** What a line "a -12 b" leaves behind an action, counter 2 being 10, expression 2 "[ab]" and text 2 "t". */
+    /** What a line "a -12 b" leaves behind an action, counter 2 being 10, expression 2 "[ab]" and text 2 "tb". */
     private static void alone(int action, int a, int b, String want) {
         LineRules x = Check.withAction(11, 2, 10);
         x.line();
         x.forget();
         Check.expression(x, 2, "[ab]");
-        Check.text(x, 2, "t");
+        Check.text(x, 2, "tb");
         x.rule(0, 0, 0);
         x.action(0, action, a, b);
         Check.line(x, "a -12 b");
@@ -209,11 +209,11 @@ public final class Promise10LineTest {
         alone(0, 2, 2, line + counters + "|a -12 b\n");
         alone(1, 2, 2, line + counters + "|-12\n");
         alone(2, 2, 2, line + "|0 0 -2 0 0 0 0 0||");
-        alone(3, 2, 2, line + counters + "-12=2 |");
+        alone(3, 2, 1, line + counters + "-12=1 |");
         alone(4, 2, 1, "a a b|<a><a><b>" + counters + "|");
         alone(5, 2, 2, "a 10 b|<a><10><b>" + counters + "|");
-        alone(6, 2, 2, "t -12 b|<t><-12><b>" + counters + "|");
-        alone(7, 2, 2, "t -12 t|<t><-12><t>" + counters + "|");
+        alone(6, 2, 2, "tb -12 b|<tb><-12><b>" + counters + "|");
+        alone(7, 2, 2, "tb -12 tb|<tb><-12><tb>" + counters + "|");
         alone(8, 2, 2, line + counters + "|a\n");
         alone(9, 2, 2, line + counters + "|10\n");
         alone(10, 2, 2, line + counters + "|");

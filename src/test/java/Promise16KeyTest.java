@@ -36,7 +36,8 @@ public final class Promise16KeyTest {
     private static void keysAreInOrder() {
         LineRules x = Check.withAction(3, 1, 1);
         x.separator(',');
-        for (String text : new String[] {"b", "\u00ff", "ab", "", "a", "abc", "B", "aa", "b ", "\u0001", "a", "10", "9"}) {
+        String[] texts = {"b", "\u00ff", "ab", "", "a", "abc", "B", "aa", "b ", "\u0001", "a", "10", "9"};
+        for (String text : texts) {
             Check.line(x, text);
         }
         Check.due("the table", Check.table(x), "=1 \u0001=1 10=1 9=1 B=1 a=2 aa=1 ab=1 abc=1 b=1 b =1 \u00ff=1 ");
