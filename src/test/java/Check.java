@@ -10,15 +10,21 @@ final class Check {
 
     private static int compared;
     private static int wrong;
+    private static String sentence = "";
 
     private Check() {
+    }
+
+    /** The document's words that the answers to come are due by: told with each wrong one. */
+    static void sentence(String words) {
+        sentence = "[" + words + "] ";
     }
 
     static void due(String what, Object got, Object want) {
         compared++;
         if (!got.equals(want)) {
             wrong++;
-            System.out.println(what + " answered " + got + ", due is " + want);
+            System.out.println(sentence + what + " answered " + got + ", due is " + want);
         }
     }
 

@@ -2,18 +2,27 @@ import java.util.function.ToIntFunction;
 
 /** Long runs of calls, drawn by a fixed rule, whose answers are compared with those of the model. */
 public final class ModelTest {
-    private static final int RUNS = 1500;
+    private static final int RUNS = 4000;
+    /** What an object answers later is free. */
+    private static final int CALLS_MOST = 512;
+    /** The calls behind these read what the run has left. */
+    private static final int CALLS_OF_THE_RUN = 330;
     private static final String ATOMS = "aab1.^$";
     private static final String NASTY = "ab|*+?.^$\\()[]-";
     private static final String LINE_SIGNS = "aab 1 2-,";
+    private static final String MORE_SIGNS = "abcdefgh 1 2 3 -,";
 
     private long seed;
     private LineRules x;
     private Model model;
     private String told;
+    private int calls;
+    /** Long lines that are printed and counted much: more than is kept, and more keys than there may be. */
+    private final boolean heavy;
 
     private ModelTest(long seed) {
         this.seed = seed;
+        heavy = seed % 4 == 0;
     }
 
     public static void main(String[] args) {
@@ -30,6 +39,7 @@ public final class ModelTest {
 
     private void same(String call, ToIntFunction<LineRules> one, ToIntFunction<Model> other) {
         told = call;
+        calls++;
         Check.due(call, Check.answer(() -> one.applyAsInt(x)), Check.answer(() -> other.applyAsInt(model)));
     }
 
@@ -37,7 +47,10 @@ public final class ModelTest {
         x = new LineRules();
         model = new Model();
         int changes = below(3) == 0 ? 25 : 5;
-        for (int n = 0; n < 60; n++) {
+        if (heavy) {
+            heavyRules();
+        }
+        while (calls < CALLS_OF_THE_RUN) {
             int kind = below(100);
             if (kind < changes) {
                 expression();
@@ -56,7 +69,10 @@ public final class ModelTest {
             }
             same("count of the pad behind " + told, y -> y.count(0), y -> y.count(0));
         }
-        state();
+        counts();
+        while (calls < CALLS_MOST) {
+            readOne();
+        }
     }
 
     private void feed(String text) {
@@ -126,8 +142,23 @@ public final class ModelTest {
             y -> y.action(rule, action, a, b));
     }
 
+    private void heavyRules() {
+        for (int r = 0; r < 3; r++) {
+            int number = r;
+            same("rule 0", y -> y.rule(0, 0, 0), y -> y.rule(0, 0, 0));
+            for (int n = 0; n < 9; n++) {
+                int action = new int[] {0, 0, 3, 3, 3, 3, 8, 4, 5, 2}[below(10)];
+                int a = 1 + below(action == 8 ? 5 : 12);
+                int b = 1 + below(7);
+                same("action " + action + " " + a + " " + b, y -> y.action(number, action, a, b),
+                    y -> y.action(number, action, a, b));
+            }
+        }
+    }
+
     private void line() {
-        feed(signs(LINE_SIGNS, below(5) == 0 ? below(121) : below(14)));
+        boolean isLong = heavy || below(5) == 0;
+        feed(signs(heavy ? MORE_SIGNS : LINE_SIGNS, isLong ? below(121) : below(14)));
         same("line", LineRules::line, Model::line);
         same("fields", y -> y.count(3), y -> y.count(3));
         for (int field = 0; field < 6; field++) {
@@ -149,7 +180,7 @@ public final class ModelTest {
     private void rare() {
         int what = below(10);
         int sign = new int[] {32, 44, 45, 97, 0, 256}[below(6)];
-        if (what == 0) {
+        if (what == 0 && !heavy) {
             same("forget", LineRules::forget, Model::forget);
         } else if (what == 1) {
             same("separator " + sign, y -> y.separator(sign), y -> y.separator(sign));
@@ -158,7 +189,7 @@ public final class ModelTest {
         }
     }
 
-    private void state() {
+    private void counts() {
         for (int what = -1; what <= 6; what++) {
             int n = what;
             same("count " + n, y -> y.count(n), y -> y.count(n));
@@ -167,20 +198,22 @@ public final class ModelTest {
             int n = k;
             same("counter " + n, y -> y.counter(n), y -> y.counter(n));
         }
-        for (int i = 0; i < 120 * 32; i++) {
-            int field = i / 120;
-            int j = i % 120;
+    }
+
+    /** One of the signs, keys or printed signs, now and then one that is not there. */
+    private void readOne() {
+        int what = below(3);
+        if (what == 0) {
+            int field = below(4) == 0 ? below(33) - 1 : below(4);
+            int j = below(4) == 0 ? below(122) : below(12) - 2;
             same("sign " + field + " " + j, y -> y.sign(field, j), y -> y.sign(field, j));
-        }
-        for (int i = -1; i < 42 * 30; i++) {
-            int k = i / 30;
-            int j = i % 30 - 3;
+        } else if (what == 1) {
+            int k = below(model.count(5) + 2) - 1;
+            int j = below(8) - 3;
             same("key " + k + " " + j, y -> y.key(k, j), y -> y.key(k, j));
-        }
-        int all = x.count(4);
-        for (int i = Math.max(-1, all - 1502); i <= all; i++) {
-            int n = i;
-            same("printed " + n, y -> y.printed(n), y -> y.printed(n));
+        } else {
+            int i = model.count(4) - below(Math.min(model.count(4), 1500) + 3) + 1;
+            same("printed " + i, y -> y.printed(i), y -> y.printed(i));
         }
     }
 }

@@ -21,33 +21,31 @@ public final class Promise14PrintedTest {
         Check.refused("printed " + i, Check.NO_SUCH, () -> x.printed(i));
     }
 
-    private static void latestAreKept() {
+    /** Prints lines of growing length; the object has calls left to read some 300 signs. */
+    private static LineRules printing(int lines, StringBuilder all) {
         LineRules x = Check.withAction(0, 0, 0);
-        StringBuilder all = new StringBuilder();
-        for (int n = 0; n < 15; n++) {
-            String line = String.valueOf((char) ('a' + n)).repeat(99);
+        for (int n = 0; n < lines; n++) {
+            String line = n + String.valueOf((char) ('a' + n % 26)).repeat(n + 57);
             Check.line(x, line);
             all.append(line).append('\n');
         }
-        Check.due("1500 in all", x.count(4), 1500);
-        Check.due("all are kept", Check.printed(x), all.toString());
-        x.line();
-        Check.due("1501 in all", x.count(4), 1501);
-        refused(x, 0);
-        Check.due("sign 1", x.printed(1), 97);
-        Check.due("sign 1500", x.printed(1500), 10);
-        refused(x, 1501);
-        Check.line(x, "z".repeat(120));
-        all.append('\n').append("z".repeat(120)).append('\n');
-        refused(x, 121);
-        Check.due("the latest 1500", Check.printed(x), all.substring(122));
-        for (int n = 0; n < 40; n++) {
-            Check.line(x, "" + n + "y".repeat(110));
-            all.append(n).append("y".repeat(110)).append('\n');
+        return x;
+    }
+
+    private static void latestAreKept() {
+        for (int lines : new int[] {10, 20, 21, 22, 35}) {
+            StringBuilder all = new StringBuilder();
+            printing(lines, all);
+            int first = Math.max(0, all.length() - 1500);
+            for (int from = first; from < all.length(); from += 300) {
+                LineRules x = printing(lines, new StringBuilder());
+                Check.due("in all", x.count(4), all.length());
+                for (int i = from; i < Math.min(all.length(), from + 300); i++) {
+                    Check.due("sign " + i + " of " + all.length(), x.printed(i), (int) all.charAt(i));
+                }
+                refused(x, first - 1);
+                refused(x, all.length());
+            }
         }
-        Check.due("in all", x.count(4), all.length());
-        Check.due("the latest 1500 then", Check.printed(x), all.substring(all.length() - 1500));
-        refused(x, all.length() - 1501);
-        refused(x, 0);
     }
 }
