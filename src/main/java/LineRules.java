@@ -805,7 +805,7 @@ public final class LineRules {
             }
         }
 
-        /** Which atoms a node may begin with and end behind at a kind of place, and whether the empty part matches it. */
+        /** Which atoms a node may begin with and end behind at a kind of place, and whether an empty part matches. */
         private void weigh(int n, int kind) {
             int left = lefts[n];
             int right = rights[n];

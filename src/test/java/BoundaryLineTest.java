@@ -34,7 +34,8 @@ public final class BoundaryLineTest {
             LineRules x = Check.feed(new LineRules(), "ab");
             int number = k;
             boolean there = k >= 0 && k <= 5;
-            Check.due("text(" + k + ")", Check.answer(() -> x.text(number)), there ? 2 : "throws NoSuchElementException");
+            Object want = there ? 2 : "throws NoSuchElementException";
+            Check.due("text(" + k + ")", Check.answer(() -> x.text(number)), want);
             Check.due("the pad behind it", x.count(0), there ? 0 : 2);
         }
         LineRules x = Check.feed(new LineRules(), "ab");

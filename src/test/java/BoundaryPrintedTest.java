@@ -121,7 +121,8 @@ public final class BoundaryPrintedTest {
     }
 
     private static void countedInAll() {
-        Check.sentence("0 signs of the pad, 1 rules, 2 lines, 3 fields of the latest line, 4 signs printed in all, 5 keys");
+        Check.sentence(
+            "0 signs of the pad, 1 rules, 2 lines, 3 fields of the latest line, 4 signs printed in all, 5 keys");
         LineRules x = new LineRules();
         for (int what = 0; what <= 5; what++) {
             Check.due("count(" + what + ") at first", x.count(what), 0);
