@@ -669,7 +669,7 @@ public final class LineRules {
                 case '.':
                     return anySign();
                 case '\\':
-                    return escaped();
+                    return one(escaped());
                 case '[':
                     return items();
                 case '(':
@@ -688,13 +688,15 @@ public final class LineRules {
             return inside;
         }
 
+        /** The sign behind a backslash; it is a fault that there is none. */
         private int escaped() {
             int sign = next();
             if (sign == 0) {
-                return refuse();
+                refuse();
+            } else {
+                at++;
             }
-            at++;
-            return one(sign);
+            return sign;
         }
 
         private int one(int sign) {
